@@ -47,9 +47,9 @@ public final class IndigoBoats {
     private int timesKept;
     /** One water for each MINUTE of a ROUTE, made once, as a run's room is counted; other thoughts use the first. */
     private final Water[] thoughts = new Water[ROUTE + 1];
-    private final Reader reader = new Reader();
+    private final Reader reader = new Reader(now.tape);
     private final Voices voices = new Voices();
-    private final Matching matching = new Matching();
+    private final Matching matching = new Matching(now);
     private final Sheet[] sheets = new Sheet[SHEETS];
     private final int[] errors = new int[ERRORS + 1];
     private int routeHad;
@@ -195,7 +195,7 @@ public final class IndigoBoats {
         if (outside(use, 1)) {
             return error(BEYOND);
         }
-        int fault = reader.faultOf(now.tape, use);
+        int fault = reader.faultFor(use);
         now.tape.clear();
         if (fault >= 0) {
             return -10 - fault;
@@ -321,7 +321,7 @@ public final class IndigoBoats {
         if (what < -1 || what >= WEARERS) {
             return error(BEYOND);
         }
-        matching.fill(now.wanted, now.water.barrel, now.water.boats);
+        matching.fill(now.water.boats);
         return what == -1 ? matching.mostServed() : matching.boatOf(what);
     }
 
@@ -930,9 +930,11 @@ public final class IndigoBoats {
 
         /** Joins stand here and not in a method of their own, to keep the calls that are open few. */
         int value(int a, int b, int c) {
+            int[] row = steps.numbers;
+            int n = steps.size;
             int top = 0;
-            for (int i = 0; i < steps.size; i++) {
-                int step = steps.numbers[i];
+            for (int i = 0; i < n; i++) {
+                int step = row[i];
                 if (step >= -NAMES && top < TAPE) {
                     stack[top] = step >= 0 ? step : step == -1 ? a : step == -2 ? b : c;
                     top++;
@@ -995,18 +997,16 @@ public final class IndigoBoats {
         private static final int UNIT = 5;
 
         final Text read = new Text();
-        private Row tape;
-        private String names;
+        private final Row tape;
+        private String names = "";
         private int at;
 
-        Reader() {
-            tape = new Row(0);
-            names = "";
+        Reader(Row of) {
+            tape = of;
         }
 
         /** The FAULT of THE TAPE as a TEXT of a USE, -1 if there is none. */
-        int faultOf(Row newTape, int use) {
-            tape = newTape;
+        int faultFor(int use) {
             names = use == 0 ? "sdt" : "lbh";
             at = 0;
             read.steps.clear();
@@ -1199,22 +1199,20 @@ public final class IndigoBoats {
     /** The best matching: for each WEARER and set of BOATS taken ahead, how much it and those behind it are served. */
     private static final class Matching {
         private final int[] served = new int[(WEARERS + 1) << BOATS];
-        private int[] wanted;
-        private int[] barrel;
+        private final int[] wanted;
+        private final int[] barrel;
         private int boats;
 
-        Matching() {
-            wanted = new int[0];
-            barrel = new int[0];
+        Matching(State of) {
+            wanted = of.wanted;
+            barrel = of.water.barrel;
         }
 
-        void fill(int[] newWanted, int[] newBarrel, int newBoats) {
-            wanted = newWanted;
-            barrel = newBarrel;
+        void fill(int newBoats) {
             boats = newBoats;
             for (int wearer = WEARERS - 1; wearer >= 0; wearer--) {
                 for (int taken = 0; taken < 1 << boats; taken++) {
-                    served[wearer << BOATS | taken] = mostFrom(wearer, taken);
+                    served[slot(wearer, taken)] = mostFrom(wearer, taken);
                 }
             }
         }
@@ -1228,15 +1226,15 @@ public final class IndigoBoats {
             int boat = BOATS;
             for (int w = 0; w <= wearer; w++) {
                 boat = firstBest(w, taken);
-                taken = boat < BOATS ? taken | 1 << boat : taken;
+                taken = boat < BOATS ? taken | (1 << boat) : taken;
             }
             return boat;
         }
 
         private int firstBest(int wearer, int taken) {
-            int most = served[wearer << BOATS | taken];
+            int most = served[slot(wearer, taken)];
             for (int b = 0; b < boats; b++) {
-                if ((taken >> b & 1) == 0 && withBoat(wearer, taken, b) == most) {
+                if (isFree(b, taken) && withBoat(wearer, taken, b) == most) {
                     return b;
                 }
             }
@@ -1244,17 +1242,25 @@ public final class IndigoBoats {
         }
 
         private int mostFrom(int wearer, int taken) {
-            int most = served[wearer + 1 << BOATS | taken];
+            int most = served[slot(wearer + 1, taken)];
             for (int b = 0; b < boats; b++) {
-                if ((taken >> b & 1) == 0) {
+                if (isFree(b, taken)) {
                     most = Math.max(most, withBoat(wearer, taken, b));
                 }
             }
             return most;
         }
 
+        private static boolean isFree(int b, int taken) {
+            return ((taken >> b) & 1) == 0;
+        }
+
         private int withBoat(int wearer, int taken, int b) {
-            return Math.min(wanted[wearer], barrel[b]) + served[wearer + 1 << BOATS | taken | 1 << b];
+            return Math.min(wanted[wearer], barrel[b]) + served[slot(wearer + 1, taken | (1 << b))];
+        }
+
+        private static int slot(int wearer, int taken) {
+            return (wearer << BOATS) | taken;
         }
     }
 }

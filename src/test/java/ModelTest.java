@@ -45,6 +45,9 @@ public final class ModelTest {
                 same("minutes", 60);
             }
         }
+        for (int i = pick(10); i > 0; i--) {
+            same("boat", pick(70), pick(16));
+        }
         boolean dear = run % 3 == 0;
         while (calls < CALLS && !wrong) {
             oneAct(dear);
@@ -200,9 +203,28 @@ public final class ModelTest {
     private void oneSheetAct() {
         switch (pick(5)) {
             case 0: same("put", near(4), near(40), any()); break;
-            case 1: case 2: same("move", near(4), near(10), near(4), near(10), near(8)); break;
+            case 1: same("move", near(4), near(10), near(4), near(10), near(8)); break;
+            case 2: moveSome(); break;
             case 3: same("lies", near(4)); break;
             default: same("judge", near(4)); break;
+        }
+    }
+
+    private void moveSome() {
+        int from = pick(4);
+        int to = pick(4);
+        int bits = new int[] {8, 16, 32}[pick(3)];
+        same("sheet", to, bits, 1 + pick(20));
+        same("sheet", from, bits, 1 + pick(20));
+        for (int i = 0; i < 12; i++) {
+            same("put", from, i, pick(100));
+        }
+        for (int i = 0; i < 4; i++) {
+            same("move", from, near(8), to, near(8), near(9));
+        }
+        same("lies", to);
+        for (int i = 0; i < 16; i++) {
+            same("ofCell", i, 1);
         }
     }
 
