@@ -1093,7 +1093,7 @@ public final class IndigoBoats {
 
         /** The byte that comes, -1 behind the last one. */
         private int next() {
-            return tape.has(at) ? tape.get(at) : -1;
+            return tape.has(at) ? tape.numbers[at] : -1;
         }
     }
 

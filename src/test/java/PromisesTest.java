@@ -106,6 +106,7 @@ public final class PromisesTest {
         promise17MinutesEnd();
         promise18Loose();
         promises19To21Ahead();
+        edgesOfThought();
         promises22To24Best();
         promise25Route();
         promise26DarkFor();
@@ -701,6 +702,35 @@ public final class PromisesTest {
         errs(x, "v 100", BEYOND, () -> x.full(0, 100));
     }
 
+    /** A BOAT that has 1 more in each dark MINUTE, and loses nothing. */
+    private static IndigoBoats oneByOne() {
+        IndigoBoats x = new IndigoBoats();
+        written(x, 0, "1");
+        written(x, 1, "0");
+        x.boat(0, 10);
+        return x;
+    }
+
+    private static void edgesOfThought() {
+        IndigoBoats x = oneByOne();
+        x.dark(20);
+        promise = 21;
+        due("full by 59", x.full(0, 59), 59);
+        due("full by 60", x.full(0, 60), 60);
+        errs(x, "full by 61", NONE, () -> x.full(0, 61));
+        promise = 26;
+        for (int v = 1; v <= 20; v++) {
+            due("DARK " + v, x.darkFor(20, v), v);
+        }
+        errs(x, "DARK 21", NONE, () -> x.darkFor(20, 21));
+        due("DARK 60", x.darkFor(60, 60), 20);
+        promise = 31;
+        due("1 of 20", x.odds(20, 20, 0), 1);
+        due("1 of 20", x.odds(20, 20, 1), 20);
+        due("0 of 20", x.odds(20, 21, 0), 0);
+        due("10 of 20", x.odds(20, 11, 1), 2);
+    }
+
     private static void promises22To24Best() {
         IndigoBoats x = new IndigoBoats();
         for (int i = 0; i < 16; i++) {
@@ -1040,6 +1070,10 @@ public final class PromisesTest {
         bits(x, 8, 0x7fffff33, 0x33);
         bits(x, 8, 0x180, -128);
         bits(x, 8, -1, -1);
+        bits(x, 8, 0x105, 5);
+        bits(x, 16, 0x10005, 5);
+        bits(x, 16, 0x105, 0x105);
+        bits(x, 32, 0x10005, 0x10005);
         bits(x, 16, 0x7fff8001, -32767);
         bits(x, 16, 0x17fff, 32767);
         bits(x, 32, LEAST, LEAST);
