@@ -149,6 +149,7 @@ public final class BoatEdgesTest {
     static void promise09AtMost8() {
         new Edge(Edge.times(7, "boat 0 0")).gives(7, "boat 69 15").gives(8, "boat 69 15", "count 0");
         new Edge(Edge.fleet()).refuses(FULL, "boat 0 0").refuses(FULL, "boat 69 15");
+        new Edge(Edge.fullPort()).refuses(FULL, "boat 0 0").refuses(FULL, "boat 69 15");
     }
 
     static void promise09BeyondAheadOfFull() {
@@ -252,7 +253,7 @@ public final class BoatEdgesTest {
     // ---- promise 13
 
     static void promise13OnlyBoatsThatThereAre() {
-        new Edge(Edge.port()).within(0, 3, 3, 5, "as # 0");
+        new Edge(Edge.port()).within(0, 3, 3, 5, "as # 0").keeps(3, "as 0 0").keeps(7, "as 1 1");
         new Edge().beyond(new int[] {-1, 0}, "as # 0");
     }
 

@@ -130,27 +130,23 @@ final class Edge {
         return all;
     }
 
+    /** The calls with the last one and without it, on new objects for each part of what can be seen. */
     private void compare(int due, String[] calls) {
-        Port with = new Port(ahead);
-        Port without = new Port(ahead);
-        for (int i = 0; i < calls.length - 1; i++) {
-            with.ask(calls[i]);
-            without.ask(calls[i]);
-        }
+        String[] all = and(ahead, calls);
+        String[] butLast = java.util.Arrays.copyOf(all, all.length - 1);
+        Port with = new Port(butLast);
+        Port without = new Port(butLast);
         due(calls, with.ask(calls[calls.length - 1]), due);
         for (int k = 1; k <= 5; k++) {
             int more = due == LOW - k ? 1 : 0;
             due(calls, "told " + k + " behind it", with.ask("told " + k), without.ask("told " + k) + more);
         }
-        List<String> got = with.all();
-        List<String> want = without.all();
-        asked++;
-        for (int i = 0; i < Math.max(got.size(), want.size()); i++) {
-            String one = i < got.size() ? got.get(i) : "nothing";
-            String other = i < want.size() ? want.get(i) : "nothing";
-            if (!one.equals(other)) {
-                told(String.join("; ", calls) + " changed more: " + one + ", without it " + other);
-                return;
+        for (int part = 0; part < Port.PARTS; part++) {
+            List<String> got = new Port(all).seen(part);
+            List<String> want = new Port(butLast).seen(part);
+            asked++;
+            if (!got.equals(want)) {
+                told(String.join("; ", calls) + " changed more: " + got + ", without it " + want);
             }
         }
     }
@@ -169,6 +165,9 @@ final class Edge {
     // ---- an object, and all that can be seen of it
 
     private static final class Port {
+        static final int PARTS = 14;
+        private static final String[] TWO_SHEETS = {"0 0 1 0", "0 0 2 0", "0 0 3 0", "1 0 2 0", "1 0 3 0", "2 0 3 0"};
+
         private final IndigoBoats boats = new IndigoBoats();
         private int calls;
 
@@ -218,7 +217,10 @@ final class Edge {
         }
 
         private static Integer number(String word) {
-            return word.equals("MIN") ? Integer.MIN_VALUE : word.equals("MAX") ? Integer.MAX_VALUE : Integer.parseInt(word);
+            if (word.equals("MIN")) {
+                return Integer.MIN_VALUE;
+            }
+            return word.equals("MAX") ? Integer.MAX_VALUE : Integer.parseInt(word);
         }
 
         private static Method face(String name) {
@@ -235,19 +237,20 @@ final class Edge {
             return FACE.get(name);
         }
 
-        /** All that calls can show, told() but for: now, of the SHEETS, and of the IMAGE. The object is spent by it. */
-        List<String> all() {
+        /**
+         * All that calls can show but for told(), in parts: what is now, what is hidden, THE TRACE, the IMAGE, each
+         * SHEET, each two SHEETS. The object is spent by one part, so that no look hides what another would show.
+         */
+        List<String> seen(int part) {
             List<String> seen = new ArrayList<>();
-            world(seen);
-            for (int i = ask("count 9") - 1; i >= 0; i--) {
-                see(seen, "trace " + i);
+            switch (part) {
+                case 0: world(seen); see(seen, "image"); break;
+                case 1: hidden(seen); break;
+                case 2: trace(seen); break;
+                case 3: see(seen, "restore"); world(seen); hidden(seen); break;
+                case 4: case 5: case 6: case 7: sheet(seen, part - 4); break;
+                default: see(seen, "move " + TWO_SHEETS[part - 8] + " 0"); break;
             }
-            hidden(seen);
-            sheets(seen);
-            see(seen, "restore");
-            world(seen);
-            hidden(seen);
-            see(seen, "image");
             return seen;
         }
 
@@ -277,8 +280,9 @@ final class Edge {
             }
         }
 
-        /** The numbers that wait, both TEXTS, and THE TAPE, which is brought to an end by a NAME. */
+        /** The numbers that wait, with a wrong one behind them; both TEXTS; THE TAPE, which a NAME brings to its end. */
         private void hidden(List<String> seen) {
+            see(seen, "tell MIN");
             see(seen, "check");
             see(seen, "law 0 1 20 4");
             see(seen, "law 0 7 3 19");
@@ -289,23 +293,25 @@ final class Edge {
             see(seen, "law 0 2 3 5");
         }
 
-        /** How many numbers each SHEET has, of which bits, and those that lie() shows. */
-        private void sheets(List<String> seen) {
-            for (int sheet = 0; sheet < 4; sheet++) {
-                int lie = see(seen, "lies " + sheet);
-                for (int i = 0; i < lie; i++) {
-                    see(seen, "ofCell " + i + " 1");
-                }
-                int size = 0;
-                for (int step = 32; lie >= 0 && step > 0; step /= 2) {
-                    int n = size + step;
-                    size = ask("move " + sheet + " 0 " + sheet + " 0 " + n) == n ? n : size;
-                }
-                seen.add("SHEET " + sheet + " has " + size);
-                for (int other = sheet + 1; other < 4; other++) {
-                    see(seen, "move " + sheet + " 0 " + other + " 0 0");
-                }
+        private void trace(List<String> seen) {
+            int body = 0;
+            for (int i = 0; i < 10 && body >= 0; i++) {
+                body = see(seen, "trace " + i);
             }
+        }
+
+        /** The numbers of a SHEET that lie() shows, and how many there are. */
+        private void sheet(List<String> seen, int sheet) {
+            int lie = see(seen, "lies " + sheet);
+            for (int i = 0; i < lie; i++) {
+                see(seen, "ofCell " + i + " 1");
+            }
+            int size = 0;
+            for (int step = 32; lie >= 0 && step > 0; step /= 2) {
+                int n = size + step;
+                size = ask("move " + sheet + " 0 " + sheet + " 0 " + n) == n ? n : size;
+            }
+            seen.add("SHEET " + sheet + " has " + size);
         }
     }
 
@@ -327,20 +333,46 @@ final class Edge {
     }
 
     /**
-     * A port with something of each: an IMAGE of MINUTE 0 with three BOATS; now MINUTE 7 (dark, the place is 1), BOATS 0 to 3:
-     * a BOAT (m 3) on CELL 6 with 33, a WHERRY (m 7) on 5 with 94, a GHOST (m 0) on 9 with 0, a PUNT (m 5) on 15 with 50;
-     * STUFF 11, 40, 31, 12 on CELLS 0, 5, 9, 15; two numbers wait, as they are due; TEXTS s/2+1 and l+h; THE TAPE has d*2+s*;
-     * THE TRACE 13, 11, 10, 12; SHEETS of 3 numbers of 8 bits, 2 of 16 bits, 0 of 32 bits, and a missing one.
+     * A port with something of each: an IMAGE of MINUTE 0 with three BOATS; now MINUTE 7 (dark, the place is 1), BOATS 0
+     * to 3: a BOAT (m 3) on CELL 6 with 33, a WHERRY (m 7) on 5 with 94, a GHOST (m 0) on 9 with 0, a PUNT (m 5) on 15
+     * with 50; STUFF 11, 40, 31, 12 on CELLS 0, 5, 9, 15, and 26 on most others; two numbers wait, as they are due; TEXTS
+     * s/2+1 and l+h; THE TAPE has d*2+s*; THE TRACE 13, 11, 10, 12; SHEETS of 3 numbers of 8 bits, 2 of 16 bits, 0 of 32
+     * bits, and a missing one.
      */
     static String[] port() {
         return new String[] {
             "boat 3 5", "boat 47 5", "boat 60 9", "tape s/2+1", "text 0", "tape l+h", "text 1", "tape d*2+",
-            "seed 99", "dark 9", "list 4 4", "wants 2 77", "change 0 1 60", "tell 60", "tell 60", "image", "check", "minutes 7",
+            "seed 99", "dark 9", "list 4 4", "wants 2 77", "change 0 1 60", "tell 60", "tell 60", "image", "check",
+            "minutes 7",
             "boat 25 15", "cell 0 1 11", "cell 5 1 40", "cell 9 1 31", "cell 15 1 12", "cell 0 0 4", "cell 15 0 6",
             "list 0 3", "list 1 2", "list 5 1", "dark 11", "wants 0 12", "wants 5 98", "change 0 0 6", "change 0 1 33",
             "change 1 0 5", "change 1 1 94", "change 2 0 9", "change 2 1 0", "change 3 1 50", "tape s*", "seed 12345",
             "tell 196", "tell 214", "sheet 0 8 3", "put 0 0 7", "put 0 1 99", "put 0 2 90", "sheet 1 16 2", "put 1 0 98",
             "put 1 1 792", "sheet 2 32 0", "voice 0 3 1"};
+    }
+
+    /** The port with as many as there can be of BOATS, bytes of THE TAPE, and numbers that wait. */
+    static String[] fullPort() {
+        String[] boats = and(port(), times(4, "boat 13 2"));
+        return and(and(boats, "tape " + "1+".repeat(22)), times(18, "tell 5"));
+    }
+
+    /** The port without an IMAGE. */
+    static String[] unkeptPort() {
+        return java.util.Arrays.stream(port()).filter(call -> !call.equals("image")).toArray(String[]::new);
+    }
+
+    /** The port in MINUTE 9999. */
+    static String[] latePort() {
+        return and(and(port(), times(166, "minutes 60")), "minutes 32");
+    }
+
+    /** A port with one BOAT alone, and something of each else. */
+    static String[] lonePort() {
+        return new String[] {
+            "boat 47 5", "tape s/2+1", "text 0", "tape l+h", "text 1", "tape d*2+", "tell 60", "image", "minutes 7",
+            "cell 0 1 11", "change 0 1 33", "tape s*", "tell 196", "sheet 0 8 3", "put 0 0 7", "sheet 1 16 2",
+            "sheet 2 32 0", "voice 0 3 1"};
     }
 
     /** Eight BOATS on CELL 0. */

@@ -88,8 +88,7 @@ public final class ImageEdgesTest {
 
     static void promise41ThereIsNone() {
         new Edge().refuses(NONE, "restore");
-        new Edge("boat 0 0", "cell 5 1 50", "tape s+", "tell 3", "sheet 0 8 2", "minutes 3", "voice 0 3 1")
-            .refuses(NONE, "restore");
+new Edge(Edge.unkeptPort()).refuses(NONE, "restore");
     }
 
     static void promise41MinuteFrom0To9999() {
@@ -123,6 +122,7 @@ public final class ImageEdgesTest {
         new Edge(waiting(20)).refuses(FULL, "tell 21").refuses(FULL, "tell MIN").gives(20, "tell 21", "count 8")
             .gives(0, "tell 21", "check")
             .gives(1, "check", "tell 1");
+        new Edge(Edge.fullPort()).refuses(FULL, "tell 5").refuses(FULL, "tell MIN").gives(20, "count 8");
     }
 
     static void promise42AnyNumber() {

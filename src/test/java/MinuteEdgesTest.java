@@ -169,7 +169,7 @@ public final class MinuteEdgesTest {
         new Edge(at(9939)).gives(9999, "minutes 60", "count 1").gives(0, "minutes 60", "told 3");
         new Edge(at(9940)).refuses(STATE, "minutes 60").gives(9999, "minutes 59", "count 1");
         new Edge(at(9960)).gives(9999, "minutes 39", "count 1").refuses(STATE, "minutes 40");
-        new Edge(Edge.late()).refuses(STATE, "minutes 1").refuses(STATE, "minutes 60");
+        new Edge(Edge.latePort()).refuses(STATE, "minutes 1").refuses(STATE, "minutes 60");
     }
 
     static void promise17BeyondAheadOfState() {
@@ -200,7 +200,7 @@ public final class MinuteEdgesTest {
     static void promise18MinuteUpTo9999() {
         new Edge(at(9959)).gives(9999, "loose 40", "count 1").gives(0, "loose 40", "told 3");
         new Edge(at(9960)).refuses(STATE, "loose 40").gives(9999, "loose 39", "count 1");
-        new Edge(Edge.late()).refuses(STATE, "loose 1").refuses(STATE, "loose 40");
+        new Edge(Edge.latePort()).refuses(STATE, "loose 1").refuses(STATE, "loose 40");
     }
 
     static void promise18BeyondAheadOfState() {

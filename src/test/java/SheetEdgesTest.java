@@ -74,7 +74,7 @@ public final class SheetEdgesTest {
     }
 
     static void promise33TheNextKindAboveThatHasOne() {
-        // dips is BOAT's for all but SKIFF and WHERRY; lids BOAT's but for PUNT and RAFT; turns BOAT's but for SIME and GHOST
+        // BOAT's, but for dips of SKIFF, WHERRY, lids of PUNT, RAFT, turns of SIME, GHOST, tells of WHERRY, GHOST
         int[] dips = {10, 20, 10, 10, 20, 10, 10};
         int[] lids = {11, 11, 30, 11, 11, 60, 11};
         int[] turns = {12, 12, 12, 40, 12, 12, 70};
@@ -279,7 +279,7 @@ public final class SheetEdgesTest {
 
     private static Edge five(String... more) {
         String[] calls = Edge.and(sheetOf(0, 16, 1, 2, 3, 4, 5), sheetOf(1, 16, 11, 12, 13));
-        return new Edge(Edge.and(calls, more));
+        return new Edge(Edge.and(Edge.and(Edge.port(), calls), more));
     }
 
     static void promise37Sheets0To3() {

@@ -338,6 +338,7 @@ public final class TextEdgesTest {
         new Edge("tape " + FORTY_NINE.substring(0, 43)).refuses(FULL, "feed 0 8").gives(50, "feed 0 7");
         new Edge("tape " + FORTY_NINE).gives(50, "feed 0 1").refuses(FULL, "feed 0 2").refuses(FULL, "feed 0 8");
         new Edge("tape " + FORTY_NINE + "0").refuses(FULL, "feed 0 1").refuses(FULL, "feed 0 8");
+        new Edge(Edge.fullPort()).refuses(FULL, "feed 0 1").refuses(FULL, "feed 0 8").gives(50, "count 7");
     }
 
     static void promise14BeyondAheadOfFull() {

@@ -105,6 +105,7 @@ public final class ThoughtEdgesTest {
         oneByOne().keeps(1, "full 0 1").keeps(59, "full 0 59").keeps(60, "full 0 60").refuses(NONE, "full 0 61")
             .refuses(NONE, "full 0 99");
         oneByOne("change 0 1 38").keeps(60, "full 0 98").refuses(NONE, "full 0 99");
+        new Edge(Edge.port()).refuses(NONE, "dark 1", "full 2 99");
     }
 
     static void promise21ItHasSoMuchNow() {
@@ -131,7 +132,7 @@ public final class ThoughtEdgesTest {
     static void promise22Behind0To60() {
         still("boat 0 5", "cell 6 1 5", "cell 9 1 5").within(0, 0, 60, 2, "wayFor 0 #").gives(0, "wayFor 0 1")
             .gives(2, "wayFor 0 2");
-        new Edge(Edge.port()).beyond(new int[] {-1, 61}, "wayFor 0 #");
+        new Edge(Edge.port()).beyond(new int[] {-1, 61}, "wayFor 0 #").keeps(0, "wayFor 0 0");
     }
 
     static void promise22OfSeveralTheLeast() {
@@ -162,7 +163,7 @@ public final class ThoughtEdgesTest {
 
     static void promise23Behind0To60() {
         still("boat 0 5", "cell 6 1 5", "cell 9 1 5").within(0, 0, 60, 6, "cellFor 0 #").gives(6, "cellFor 0 1");
-        new Edge(Edge.port()).beyond(new int[] {-1, 61}, "cellFor 0 #");
+        new Edge(Edge.port()).beyond(new int[] {-1, 61}, "cellFor 0 #").keeps(0, "cellFor 0 0");
     }
 
     static void promise23OfSeveralTheLeast() {
@@ -194,7 +195,7 @@ public final class ThoughtEdgesTest {
         // As a GHOST with m 2 it goes to CELL 6, and so has the 5 there, too.
         still("boat 2 5", "cell 5 1 5", "cell 6 1 5").within(0, 0, 60, 6, "kindFor 0 #").gives(0, "kindFor 0 1")
             .gives(6, "kindFor 0 2");
-        new Edge(Edge.port()).beyond(new int[] {-1, 61}, "kindFor 0 #");
+        new Edge(Edge.port()).beyond(new int[] {-1, 61}, "kindFor 0 #").keeps(0, "kindFor 0 0");
     }
 
     static void promise24OfSeveralTheLeast() {
@@ -365,7 +366,7 @@ public final class ThoughtEdgesTest {
 
     static void promise28FewerThanTwo() {
         new Edge().refuses(NONE, "blend 0").refuses(NONE, "blend 198");
-        new Edge("boat 0 0").refuses(NONE, "blend 0").refuses(NONE, "blend 198");
+        new Edge(Edge.lonePort()).refuses(NONE, "blend 0").refuses(NONE, "blend 198");
         new Edge("boat 0 0", "boat 0 0").keeps(1, "blend 0").keeps(1, "blend 198");
     }
 
@@ -446,7 +447,7 @@ public final class ThoughtEdgesTest {
     }
 
     static void promise30What0To1() {
-        new Edge(Edge.port()).within(0, 100, 1, 0, "lay 2 5 #");
+        new Edge(Edge.port()).within(0, 100, 1, 0, "lay 2 5 #").keeps(100, "lay 2 5 0").keeps(0, "lay 2 5 1");
     }
 
     static void promise30ASheetThatIsMissing() {
