@@ -47,9 +47,9 @@ public final class IndigoBoats {
     private int timesKept;
     /** One water for each MINUTE of a ROUTE, made once, as a run's room is counted; other thoughts use the first. */
     private final Water[] thoughts = new Water[ROUTE + 1];
-    private final Reader reader = new Reader(now.tape);
+    private final Reader reader = new Reader();
     private final Voices voices = new Voices();
-    private final Matching matching = new Matching(now);
+    private final Matching matching = new Matching();
     private final Sheet[] sheets = new Sheet[SHEETS];
     private final int[] errors = new int[ERRORS + 1];
     private int routeHad;
@@ -195,7 +195,7 @@ public final class IndigoBoats {
         if (outside(use, 1)) {
             return error(BEYOND);
         }
-        int fault = reader.faultFor(use);
+        int fault = reader.faultFor(now.tape, use);
         now.tape.clear();
         if (fault >= 0) {
             return -10 - fault;
@@ -321,7 +321,7 @@ public final class IndigoBoats {
         if (what < -1 || what >= WEARERS) {
             return error(BEYOND);
         }
-        matching.fill(now.water.boats);
+        matching.fill(now);
         return what == -1 ? matching.mostServed() : matching.boatOf(what);
     }
 
@@ -997,16 +997,13 @@ public final class IndigoBoats {
         private static final int UNIT = 5;
 
         final Text read = new Text();
-        private final Row tape;
+        private final Row tape = new Row(TAPE);
         private String names = "";
         private int at;
 
-        Reader(Row of) {
-            tape = of;
-        }
-
         /** The FAULT of THE TAPE as a TEXT of a USE, -1 if there is none. */
-        int faultFor(int use) {
+        int faultFor(Row of, int use) {
+            tape.copyFrom(of);
             names = use == 0 ? "sdt" : "lbh";
             at = 0;
             read.steps.clear();
@@ -1199,17 +1196,14 @@ public final class IndigoBoats {
     /** The best matching: for each WEARER and set of BOATS taken ahead, how much it and those behind it are served. */
     private static final class Matching {
         private final int[] served = new int[(WEARERS + 1) << BOATS];
-        private final int[] wanted;
-        private final int[] barrel;
+        private final int[] wanted = new int[WEARERS];
+        private final int[] barrel = new int[BOATS];
         private int boats;
 
-        Matching(State of) {
-            wanted = of.wanted;
-            barrel = of.water.barrel;
-        }
-
-        void fill(int newBoats) {
-            boats = newBoats;
+        void fill(State of) {
+            boats = of.water.boats;
+            System.arraycopy(of.wanted, 0, wanted, 0, WEARERS);
+            System.arraycopy(of.water.barrel, 0, barrel, 0, BOATS);
             for (int wearer = WEARERS - 1; wearer >= 0; wearer--) {
                 for (int taken = 0; taken < 1 << boats; taken++) {
                     served[slot(wearer, taken)] = mostFrom(wearer, taken);

@@ -165,7 +165,7 @@ final class Edge {
     // ---- an object, and all that can be seen of it
 
     private static final class Port {
-        static final int PARTS = 14;
+        static final int PARTS = 16;
         private static final String[] TWO_SHEETS = {"0 0 1 0", "0 0 2 0", "0 0 3 0", "1 0 2 0", "1 0 3 0", "2 0 3 0"};
 
         private final IndigoBoats boats = new IndigoBoats();
@@ -238,18 +238,20 @@ final class Edge {
         }
 
         /**
-         * All that calls can show but for told(), in parts: what is now, what is hidden, THE TRACE, the IMAGE, each
-         * SHEET, each two SHEETS. The object is spent by one part, so that no look hides what another would show.
+         * All that calls can show but for told(), in parts: what is now, TEXTS, numbers that wait, THE TRACE, the IMAGE,
+         * each SHEET, each two SHEETS. The object is spent by one part, so that no look hides what another would show.
          */
         List<String> seen(int part) {
             List<String> seen = new ArrayList<>();
             switch (part) {
                 case 0: world(seen); see(seen, "image"); break;
-                case 1: hidden(seen); break;
-                case 2: trace(seen); break;
-                case 3: see(seen, "restore"); world(seen); hidden(seen); break;
-                case 4: case 5: case 6: case 7: sheet(seen, part - 4); break;
-                default: see(seen, "move " + TWO_SHEETS[part - 8] + " 0"); break;
+                case 1: texts(seen); break;
+                case 2: waiting(seen); break;
+                case 3: trace(seen); break;
+                case 4: see(seen, "restore"); world(seen); texts(seen); break;
+                case 5: see(seen, "restore"); waiting(seen); break;
+                case 6: case 7: case 8: case 9: sheet(seen, part - 6); break;
+                default: see(seen, "move " + TWO_SHEETS[part - 10] + " 0"); break;
             }
             return seen;
         }
@@ -280,10 +282,8 @@ final class Edge {
             }
         }
 
-        /** The numbers that wait, with a wrong one behind them; both TEXTS; THE TAPE, which a NAME brings to its end. */
-        private void hidden(List<String> seen) {
-            see(seen, "tell MIN");
-            see(seen, "check");
+        /** Both TEXTS, and THE TAPE, which a NAME brings to its end. */
+        private void texts(List<String> seen) {
             see(seen, "law 0 1 20 4");
             see(seen, "law 0 7 3 19");
             see(seen, "law 1 5 30 0");
@@ -291,6 +291,12 @@ final class Edge {
             see(seen, "feed 0x74 1");
             see(seen, "text 0");
             see(seen, "law 0 2 3 5");
+        }
+
+        /** The numbers that wait, with a wrong one behind them. */
+        private void waiting(List<String> seen) {
+            see(seen, "tell MIN");
+            see(seen, "check");
         }
 
         private void trace(List<String> seen) {

@@ -88,7 +88,7 @@ public final class ImageEdgesTest {
 
     static void promise41ThereIsNone() {
         new Edge().refuses(NONE, "restore");
-new Edge(Edge.unkeptPort()).refuses(NONE, "restore");
+        new Edge(Edge.unkeptPort()).refuses(NONE, "restore");
     }
 
     static void promise41MinuteFrom0To9999() {
