@@ -36,19 +36,22 @@ final class Edge {
 
     // ---- tests by their names
 
-    /** Runs all tests of a class; each of these promises must have one that is named after it. */
+    /**
+     * Runs all tests of a class; each of these promises must have one that is named after it. With -Dtest=.. only those
+     * are run whose names begin so.
+     */
     static void run(Class<?> tests, int firstPromise, int lastPromise) {
-        Map<String, Method> named = new TreeMap<>();
-        for (Method method : tests.getDeclaredMethods()) {
-            if (method.getName().matches("(promise\\d\\d|terms\\d).*") && Modifier.isStatic(method.getModifiers())) {
-                named.put(method.getName(), method);
-            }
-        }
+        Map<String, Method> named = named(tests);
         for (int promise = firstPromise; promise <= lastPromise; promise++) {
             String name = String.format("promise%02d", promise);
             if (named.keySet().stream().noneMatch(n -> n.startsWith(name))) {
                 told("no test is named " + name);
             }
+        }
+        String only = System.getProperty("test", "");
+        named.keySet().removeIf(name -> !name.startsWith(only));
+        if (named.isEmpty()) {
+            told("no test is named " + only);
         }
         for (Method method : named.values()) {
             test = method.getName();
@@ -62,6 +65,16 @@ final class Edge {
         if (wrong != 0) {
             System.exit(1);
         }
+    }
+
+    private static Map<String, Method> named(Class<?> tests) {
+        Map<String, Method> named = new TreeMap<>();
+        for (Method method : tests.getDeclaredMethods()) {
+            if (method.getName().matches("(promise\\d\\d|terms\\d).*") && Modifier.isStatic(method.getModifiers())) {
+                named.put(method.getName(), method);
+            }
+        }
+        return named;
     }
 
     private static void told(String what) {
@@ -164,7 +177,7 @@ final class Edge {
 
     // ---- an object, and all that can be seen of it
 
-    private static final class Port {
+    static final class Port {
         static final int PARTS = 16;
         private static final String[] TWO_SHEETS = {"0 0 1 0", "0 0 2 0", "0 0 3 0", "1 0 2 0", "1 0 3 0", "2 0 3 0"};
 
